@@ -228,8 +228,7 @@ public final class CascadeBus {
         if (!isBlock(block) || !live.state.canTell(plan, block, mode)) {
             return refuseAct();
         }
-        int at = block * BLOCK_CELLS + TARGET;
-        return putCell(at, mode);
+        return putCell(block * BLOCK_CELLS + TARGET, mode);
     }
 
     public int hand(int block, int value) {
@@ -431,10 +430,6 @@ public final class CascadeBus {
     }
 
     public int fits() {
-        return fittingCauses();
-    }
-
-    private int fittingCauses() {
         int fitting = 0;
         for (int cause = 0; cause < CAUSES; cause++) {
             if (startTrialBy(cause) && trialIsAsNoted()) {
@@ -481,7 +476,7 @@ public final class CascadeBus {
         if (what != 0 && what != 1) {
             throw new NoSuchElementException();
         }
-        gatherModes(fittingCauses());
+        gatherModes(fits());
         int best = NONE;
         int most = 0;
         for (int b = 0; b < plan.blocks; b++) {
@@ -499,7 +494,7 @@ public final class CascadeBus {
             seenModes[b] = 0;
         }
         for (int cause = 0; cause < CAUSES; cause++) {
-            if ((causes >> cause & 1) == 1 && startTrialBy(cause)) {
+            if (hasBit(causes, cause) && startTrialBy(cause)) {
                 passCycles(trial, LOOK_CYCLES);
                 for (int b = 0; b < plan.blocks; b++) {
                     seenModes[b] |= 1 << trial.cells[b * BLOCK_CELLS + ACTUAL];
@@ -555,6 +550,10 @@ public final class CascadeBus {
         if (number < least || number > most) {
             throw new IllegalArgumentException();
         }
+    }
+
+    private static boolean hasBit(int bits, int place) {
+        return (bits >> place & 1) == 1;
     }
 
     private int refuseAct() {
@@ -672,12 +671,12 @@ public final class CascadeBus {
             int reached = 1 << ahead;
             for (int round = 0; round < MOST_BLOCKS; round++) {
                 for (int l = 0; l < many; l++) {
-                    if ((reached >> from[l] & 1) == 1) {
+                    if (hasBit(reached, from[l])) {
                         reached |= 1 << to[l];
                     }
                 }
             }
-            return (reached >> behind & 1) == 1;
+            return hasBit(reached, behind);
         }
     }
 
@@ -1105,7 +1104,7 @@ public final class CascadeBus {
         }
 
         boolean isOn(int device) {
-            return (cells[DEVICES_ON] >> device & 1) == 1;
+            return hasBit(cells[DEVICES_ON], device);
         }
 
         void switchDevice(int device, boolean on, int over) {
@@ -1121,7 +1120,7 @@ public final class CascadeBus {
         }
 
         boolean isBroken(int sensor) {
-            return (cells[BROKEN] >> sensor & 1) == 1;
+            return hasBit(cells[BROKEN], sensor);
         }
 
         void turnSensor(int sensor) {
@@ -1166,7 +1165,7 @@ public final class CascadeBus {
                         bringLink(p, s, link);
                     }
                 }
-                if ((s[DEVICES_ON] >> p.device[b] & 1) == 1) {
+                if (hasBit(s[DEVICES_ON], p.device[b])) {
                     runBlock(p, s, b);
                 }
             }
@@ -1208,7 +1207,7 @@ public final class CascadeBus {
                 return;
             }
             for (int d = p.devices - 1; d >= 0; d--) {
-                if ((s[DEVICES_ON] >> d & 1) == 1) {
+                if (hasBit(s[DEVICES_ON], d)) {
                     s[SCHEDULER] = d;
                 }
             }
@@ -1246,10 +1245,10 @@ public final class CascadeBus {
 
         /** To a DEVICE that is OFF nothing comes, not even from within it. */
         private static boolean carries(int[] s, int fromDevice, int toDevice) {
-            if ((s[DEVICES_ON] >> toDevice & 1) == 0) {
+            if (!hasBit(s[DEVICES_ON], toDevice)) {
                 return false;
             }
-            return fromDevice == toDevice || s[SCHEDULER] != NONE && (s[DEVICES_ON] >> fromDevice & 1) == 1;
+            return fromDevice == toDevice || s[SCHEDULER] != NONE && hasBit(s[DEVICES_ON], fromDevice);
         }
 
         private static void growOlder(int[] s, int at) {
@@ -1304,7 +1303,7 @@ public final class CascadeBus {
             s[at + GOOD] = s[at + ACTUAL] == OUT_OF_SERVICE ? 0 : 1;
             if (s[at + ACTUAL] == AUTO) {
                 s[at + OUT] = s[SENSORS_AT + sensor];
-                s[at + GOOD] = 1 - (s[BROKEN] >> sensor & 1);
+                s[at + GOOD] = hasBit(s[BROKEN], sensor) ? 0 : 1;
             }
         }
 
