@@ -601,10 +601,9 @@ public final class CascadeBus {
             plants.clear();
         }
 
-        /** Needs room for one more BLOCK. */
+        /** Needs room for one more BLOCK; its KIND and what that has are told behind it. */
         int addBlock(int itsDevice, int itsTime) {
             int b = blocks;
-            kind[b] = INPUT;
             device[b] = itsDevice;
             time[b] = itsTime;
             port[b] = NONE;

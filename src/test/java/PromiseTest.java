@@ -135,6 +135,9 @@ public final class PromiseTest {
 
     private static void faults() {
         fault("x", 1, 0);
+        fault("xld 1;", 1, 0);
+        fault("olx 1;", 1, 0);
+        fault("zold 1;", 1, 0);
         fault("blocks 0 1 input 0;", 1, 0);
         fault(" \n old 1", 1, 8);
         fault("old 1  \n ", 1, 9);
@@ -574,6 +577,10 @@ public final class PromiseTest {
         x.cycles(1);
         due("held by HIGH", x.block(1, 8), 50);
         due("its LIMIT is what came back", x.block(1, 11), 2);
+        x.hand(1, 10);
+        x.cycles(1);
+        due("a step of 1 is held, too", x.block(1, 8), 50);
+        x.hand(1, 500);
         x.target(2, 0);
         x.cycles(2);
         due("BACK is BAD", x.link(1, 11), 0);
@@ -751,6 +758,16 @@ public final class PromiseTest {
         due("100", y.toTune(1, 0, 2), 100);
         due("a CYCLE ahead of it", y.toTune(1, 0, 1), 300);
         due("GAIN stays", y.then(3, 20, 0), 0);
+        y.hand(1, 0);
+        y.target(3, 1);
+        y.cycles(1);
+        y.hand(3, 100);
+        y.cycles(2);
+        y.target(3, 3);
+        y.cycles(1);
+        y.hand(1, 100);
+        due("VALUE is at SETPOINT: by 0 alone", y.toTune(1, 0, 2), 0);
+        due("by 7", y.toTune(1, 7, 2), 7);
         CascadeBus z = Check.told("block 0 1 pid 0 0 man back;");
         due("without VALUE", z.toTune(0, 0, 30), 300);
     }
@@ -929,11 +946,22 @@ public final class PromiseTest {
         due("again", x.restore() ? 1 : 0, 1);
         due("ACTS", x.count(10), 2);
         x.undo();
-        x.undo();
+        due("the oldest ACT", x.undo(), 0);
+        due("ACTUAL as it was ahead of it", x.block(0, 6), 1);
+        due("TIME", x.count(3), 0);
         x.image();
         x.cycles(1);
         x.restore();
         due("in place of another one", x.count(10), 0);
+        due("TIME", x.count(3), 0);
+        x.cycles(1);
+        x.image();
+        for (int k = 0; k < 45; k++) {
+            x.cycles(1);
+        }
+        x.restore();
+        due("behind more ACTS than are kept", x.count(10), 1);
+        due("its ACT is undone", x.undo(), 0);
         due("TIME", x.count(3), 0);
     }
 }
