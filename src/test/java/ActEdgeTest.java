@@ -19,6 +19,7 @@ public final class ActEdgeTest {
         link();
         plant();
         target();
+        modes();
         hand();
         handOfModes();
         power();
@@ -33,6 +34,7 @@ public final class ActEdgeTest {
         imageOfAll();
         imageOfNoted();
         restore();
+        manyCalls();
         Check.end("ActEdgeTest");
     }
 
@@ -228,6 +230,17 @@ public final class ActEdgeTest {
         CascadeBus off = Check.told(FOUR);
         off.power(0, false);
         due("also where it is OFF", off.target(0, 1), 2);
+    }
+
+    private static void modes() {
+        Check.says("(0 OUT OF SERVICE, 1 MAN, 2 AUTO, 3 CASCADE: of PID, OUTPUT alone)");
+        CascadeBus x = Check.told(FOUR);
+        for (int b = 0; b < 4; b++) {
+            x.target(b, 3);
+        }
+        int[] targets = {x.block(0, 5), x.block(1, 5), x.block(2, 5), x.block(3, 5)};
+        Check.dueAll("TARGET", targets, 2, 3, 3, 2);
+        Check.dueAll("INPUT, PICK refused, the OUTPUT's is so already", Check.status(x), 0, 3, 0);
     }
 
     private static void hand() {
@@ -632,5 +645,17 @@ public final class ActEdgeTest {
         fresh.power(1, false);
         due("but may have", fresh.restore(), true);
         due("ON", fresh.count(6), 3);
+    }
+
+    private static void manyCalls() {
+        Check.says("An object is used for at most 512 calls after it has been made");
+        CascadeBus x = new CascadeBus();
+        x.feed(0x626c6f63, 0x6b203020, 0x31207069, 0x636b206d, 0x6f73743b);
+        due("bus", x.bus(20), 0);
+        for (int call = 3; call <= 510; call++) {
+            due("call " + call, x.hand(0, call), call == 3 ? 0 : call - 1);
+        }
+        due("the 511th", x.undo(), 39);
+        due("the 512th", x.block(0, 8), 509);
     }
 }

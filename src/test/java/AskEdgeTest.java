@@ -712,7 +712,8 @@ public final class AskEdgeTest {
                 seen.add(due[2]);
             }
         }
-        due("some SCHEDULERS came, in some more than one", seen.size() >= 3 ? 1 : 0, 1);
+        Check.says("OUT of all BLOCKS together then; DEVICES ON (bits); how often there came a SCHEDULER behind none.");
+        due("none came, one, or more", seen.size() >= 3 ? 1 : 0, 1);
         Check.same("nothing changes", Check.picture(x), Check.picture(rich()));
         Check.dueAll("no STATUS", Check.status(x), 0, 0, 0);
         Check.says("(without BLOCKS nothing is drawn behind 2, 5)");

@@ -42,6 +42,7 @@ public final class CycleEdgeTest {
         outputMoves();
         outputLimit();
         pidFollows();
+        pidError();
         pidSteps();
         pidHeld();
         pidStaysOut();
@@ -1008,6 +1009,48 @@ public final class CycleEdgeTest {
         alone.cycles(2);
         due("no SET goes from it: none", alone.block(0, 12), 0);
         due("OUT stays", alone.block(0, 8), 8);
+    }
+
+    private static void pidError() {
+        Check.says("PID: by 3 SETPOINT is what came by SET. E is SETPOINT less VALUE (as it last came).");
+        CascadeBus x = Check.told(CASCADE);
+        x.target(1, 1);
+        x.target(3, 1);
+        x.target(0, 1);
+        x.cycles(2);
+        x.hand(1, 600);
+        x.hand(0, 250);
+        x.cycles(1);
+        due("by 3 what came by SET", x.block(2, 7), 600);
+        due("E", x.block(2, 9), 350);
+        x.target(2, 2);
+        x.hand(1, 900);
+        x.cycles(1);
+        due("by 2 it stays", x.block(2, 7), 600);
+        x.target(2, 1);
+        x.hand(0, 1000);
+        x.cycles(1);
+        due("by 1 it stays", x.block(2, 7), 600);
+        due("E below 0", x.block(2, 9), -400);
+        x.target(2, 0);
+        x.cycles(1);
+        due("by 0 it stays", x.block(2, 7), 600);
+        CascadeBus alone = Check.told("block 0 1 pid 1 1 man back;");
+        alone.cycles(1);
+        due("without VALUE", alone.block(0, 9), 0);
+        CascadeBus old = Check.told("devices 3;old 1;block 1 1 input 0;block 2 1 pid 0 0 man back;link 0 1 value;");
+        old.target(0, 1);
+        old.hand(0, 70);
+        old.cycles(1);
+        old.power(1, false);
+        old.hand(0, 90);
+        old.cycles(5);
+        due("BAD, too old", old.block(1, 6), 1);
+        due("as it last came", old.block(1, 9), -70);
+        old.power(1, true);
+        old.target(0, 0);
+        old.cycles(1);
+        due("BAD, but it came", old.block(1, 9), -90);
     }
 
     /** INPUT 0 that is 1, and a PID 1 without SET, whose OUT is 500 and its SETPOINT, VALUE, LAST 0. */
