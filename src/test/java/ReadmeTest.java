@@ -11,8 +11,11 @@ import java.util.List;
 import java.util.stream.Stream;
 import javax.tools.ToolProvider;
 
-/** README's program compiles with the class and prints what README says; README names each test of the project. */
+/** README's program compiles with the class and prints what README says; its text is sound; it names each test. */
 public final class ReadmeTest {
+    private static final String WORDS = "devices block input pid man auto back stays output pick most least link value "
+            + "other set plant old over";
+
     private ReadmeTest() {
     }
 
@@ -24,6 +27,7 @@ public final class ReadmeTest {
         } finally {
             clear(folder);
         }
+        textIsWhole(readme);
         namesEachTest(readme);
         Check.end("ReadmeTest");
     }
@@ -44,6 +48,16 @@ public final class ReadmeTest {
         for (int k = 0; k < Math.min(printed.size(), told.size()); k++) {
             Check.due("printed '" + printed.get(k) + "', README says '" + told.get(k) + "'",
                     printed.get(k).equals(told.get(k)), true);
+        }
+    }
+
+    private static void textIsWhole(String readme) {
+        String text = fenced(readme, "bus");
+        CascadeBus bus = new CascadeBus();
+        Check.due("the fault of README's text", Check.tell(bus, text), 0);
+        Check.due("its place", bus.fault(), CascadeBus.NONE);
+        for (String word : WORDS.split(" ")) {
+            Check.due("README's text has " + word, text.matches("(?s).*\\b" + word + "\\b.*"), true);
         }
     }
 
